@@ -739,6 +739,21 @@ public final class PromiseTests {
       due(p.ahead(n - 1, 0), 2);
       due(p.ahead(n, 0), 3);
     });
+    test("33, 99 years and 100", p -> {
+      two(p);
+      p.seed(47413);
+      due(p.when(), 99);
+      due(p.ahead(60, 0), 2);
+      p.years(60);
+      due(p.years(38), 0);
+      due(p.years(1), 1);
+      p.fire();
+      p.seed(36881);
+      due(p.when(), NONE);
+      due(p.years(60), 0);
+      due(p.years(39), 0);
+      due(p.years(1), 1);
+    });
     test("33, the last years", p -> {
       toYear(p, 9900);
       due(p.when(), NONE);
@@ -849,6 +864,7 @@ public final class PromiseTests {
       due(read(p, "coin 99999999999999999999999"), -6);
       due(read(p, "coin 4294967296"), -6);
       due(read(p, "coins 3"), -1);
+      due(read(p, "coinz 3"), -1);
       due(read(p, "Coin 3"), -1);
       due(read(p, "coin-3"), -5);
       due(read(p, "coin 3\n"), -7);
@@ -1051,10 +1067,23 @@ public final class PromiseTests {
       due(p.count(2), 100);
       p.sheet(1, 32, 8);
       due(p.judge(1), 1);
+      p.write(1, 0, Integer.MAX_VALUE);
+      due(p.judge(1), 1);
       p.sheet(1, 32, 9);
       due(p.judge(1), SIZE);
       p.sheet(1, 32, 0);
       due(p.judge(1), 0);
+    });
+    test("45, no lot, though as far from both", p -> {
+      p.grace(0, 1, 10);
+      p.grace(0, 2, 11);
+      p.grace(0, 0, 2);
+      p.grace(0, 1, 1);
+      p.sheet(0, 16, 1);
+      p.write(0, 0, 144);
+      due(p.judge(0), 1);
+      p.write(0, 0, -1);
+      due(p.judge(0), 1);
     });
   }
 
