@@ -5,6 +5,7 @@ final class LotBounds {
 
   static void run() {
     free();
+    border();
     pairs();
     pair();
     row();
@@ -50,6 +51,55 @@ final class LotBounds {
       p.grace(0, 10, 0);
       Bounds.due(p.far(0, 5, 9) - p.far(1, 5, 9), 0);
       Bounds.due(p.pairs(5, 9), 0);
+    });
+  }
+
+  /** Behind the border (0, 12) would be free, and on the plain nothing is: ruins stand there. */
+  private static void behindTheEnd(EqualPlain p) {
+    p.grace(0, 8, 11);
+    p.grace(0, 7, 8);
+    p.grace(3, 3, 11);
+    p.grace(3, 6, 10);
+    p.grace(3, 9, 9);
+  }
+
+  /** Ahead of the border (-1, 0) would be free, and on the plain nothing is: ruins stand there. */
+  private static void aheadOfTheBegin(EqualPlain p) {
+    p.grace(0, 0, 7);
+    p.grace(0, 4, 5);
+    for (int x = 0; x < 5; x++) p.grace(3, x, 2 * x + 2);
+  }
+
+  private static void border() {
+    Bounds.test(13, "no LOT behind the border counts", p -> {
+      p.grace(0, 1, 10);
+      p.grace(0, 2, 11);
+      // x + y 12: from (1, 11) to (11, 1)
+      Bounds.due(p.lots(0), 11);
+      Bounds.due(p.lots(1), 11);
+      Bounds.due(p.loses(0), 11);
+    });
+    Bounds.test(13, "no LOT ahead of the border counts", p -> {
+      p.grace(0, 0, 2);
+      p.grace(0, 1, 1);
+      // y is x + 1: from (0, 1) to (10, 11)
+      Bounds.due(p.lots(0), 11);
+      Bounds.due(p.lots(1), 11);
+      Bounds.due(p.loses(0), 11);
+    });
+    Bounds.refused(17, "NONE: just a LOT behind the border would be FREE", Bounds.NONE, LotBounds::behindTheEnd,
+        p -> p.best(), p -> p.opens(0), p -> p.opened(0));
+    Bounds.refused(17, "NONE: just a LOT ahead of the border would be FREE", Bounds.NONE, LotBounds::aheadOfTheBegin,
+        p -> p.best(), p -> p.opens(0), p -> p.opened(0));
+    Bounds.test(15, "none behind the border opens one", p -> {
+      behindTheEnd(p);
+      for (int what = 0; what < 3; what++) Bounds.due(p.lots(what), 0);
+      Bounds.due(p.huts(0, 0), Bounds.NONE);
+    });
+    Bounds.test(15, "none ahead of the border opens one", p -> {
+      aheadOfTheBegin(p);
+      for (int what = 0; what < 3; what++) Bounds.due(p.lots(what), 0);
+      Bounds.due(p.huts(0, 0), Bounds.NONE);
     });
   }
 
@@ -103,6 +153,18 @@ final class LotBounds {
       // from (6, 3): 4, 2, 2, 4
       Bounds.due(p.pairs(6, 3), 2);
       Bounds.due(p.pair(6, 3), 3);
+    });
+    Bounds.test(11, "not one that is nearer than the other one, nor farther", p -> {
+      p.grace(0, 5, 3);
+      p.grace(0, 9, 3);
+      p.grace(0, 3, 3);
+      p.grace(0, 6, 1);
+      p.grace(0, 6, 5);
+      // from (6, 3): 1, 9, 9, 4, 4
+      Bounds.due(p.pairs(6, 3), 2);
+      Bounds.due(p.pair(6, 3), 12);
+      p.change(1, 3);
+      Bounds.due(p.pair(6, 3), 34);
     });
     Bounds.test(11, "then by the other one", p -> {
       p.grace(0, 5, 3);
@@ -214,6 +276,12 @@ final class LotBounds {
       p.grace(3, 0, 5);
       p.grace(3, 11, 5);
       Bounds.due(p.only(5) & 0b100000000001, 0);
+    });
+    Bounds.test(14, "a row beside a full one is empty", p -> {
+      p.grace(0, 5, 4);
+      p.grace(0, 5, 6);
+      Bounds.due(p.only(4), 0);
+      Bounds.due(p.only(6), 0);
     });
     Bounds.test(14, "an empty row", p -> {
       Bounds.due(p.only(0), 0);

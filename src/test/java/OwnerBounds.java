@@ -213,6 +213,16 @@ final class OwnerBounds {
       Bounds.due(p.kindFor(9), 5);
       Bounds.due(p.of(9, 0), 0);
     });
+    Bounds.test(22, "it is how many LOTS are FREE in all then, of each HOUSE of a town", p -> {
+      int[] town = {0, 2, 3, 0, 4, 3, 2, 6, 6, 1, 3, 7, 5, 9, 8, 4, 1, 10, 3, 11, 0, 6, 8, 2};
+      for (int i = 0; i < town.length; i += 3) p.grace(town[i], town[i + 1], town[i + 2]);
+      for (int house = 0; house < 8; house++) {
+        int[] free = freeByKind(p, house);
+        int best = 0;
+        for (int kind = 0; kind < 7; kind++) if (free[kind] > free[best]) best = kind;
+        Bounds.due(p.kindFor(house), best);
+      }
+    });
     Bounds.test(22, "KIND 6, the last one, if it does most", p -> {
       p.grace(6, 2, 2);
       p.grace(0, 5, 7);

@@ -457,20 +457,14 @@ final class SheetBounds {
     });
     Bounds.test(45, "those put up are of KIND 0", p -> {
       p.grace(1, 2, 3);
-      p.grace(5, 4, 3);
-      NaiveModel model = new NaiveModel();
-      model.grace(1, 2, 3);
-      model.grace(5, 4, 3);
+      p.grace(0, 4, 3);
       p.sheet(0, 16, 2);
-      model.sheet(0, 16, 2);
-      int first = p.best();
-      p.write(0, 0, first);
-      model.write(0, 0, first);
-      for (int lot = 0; lot < 144; lot++) {
-        p.write(0, 1, lot);
-        model.write(0, 1, lot);
-        Bounds.due(p.judge(0), model.judge(0));
-      }
+      p.write(0, 0, 27);
+      p.write(0, 1, 65);
+      // (5, 5) is 13 from the hut and from (3, 2): a pair, unless that were a hut too
+      Bounds.due(p.judge(0), 0);
+      p.grace(1, 3, 2);
+      Bounds.due(p.pairs(5, 5), 0);
     });
     Bounds.quiet(45, "nothing changes", Bounds::filled, p -> p.judge(0), p -> p.judge(2));
     Bounds.test(45, "COIN isn't asked", p -> {

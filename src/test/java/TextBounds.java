@@ -171,6 +171,9 @@ final class TextBounds {
       Bounds.due(Bounds.read(p, "coin`1"), -5);
       Bounds.due(Bounds.read(p, "coin1{"), -6);
       Bounds.due(Bounds.read(p, "COIN1"), -1);
+      Bounds.due(Bounds.read(p, "coinA1"), -5);
+      Bounds.due(Bounds.read(p, "coinZ1"), -5);
+      Bounds.due(Bounds.read(p, "hut atB 1 1"), -7);
     });
     Bounds.test(38, "digits 0 and 9, and the bytes beside them", p -> {
       Bounds.due(Bounds.read(p, "coin 90"), 1);
