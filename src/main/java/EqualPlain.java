@@ -509,7 +509,8 @@ public final class EqualPlain {
   }
 
   public int sheet(int s, int bits, int n) {
-    if (!isSheet(s) || (bits != 0 && bits != 8 && bits != 16 && bits != 32)) {
+    Sheet ruled = sheetAt(s);
+    if (ruled == null || (bits != 0 && bits != 8 && bits != 16 && bits != 32)) {
       return finding(BEYOND);
     }
     if (n < 0) {
@@ -518,72 +519,77 @@ public final class EqualPlain {
     if (n > MOST_NUMBERS) {
       return finding(BEYOND);
     }
-    sheets[s].rule(bits, n);
-    return sheets[s].size();
+    ruled.rule(bits, n);
+    return ruled.size();
   }
 
   public int write(int s, int i, int v) {
-    if (!isSheet(s)) {
+    Sheet written = sheetAt(s);
+    if (written == null) {
       return finding(BEYOND);
     }
-    if (sheets[s].isMissing()) {
+    if (written.isMissing()) {
       return finding(MISSING);
     }
-    if (i < 0 || i >= sheets[s].size()) {
+    if (i < 0 || i >= written.size()) {
       return finding(BEYOND);
     }
-    sheets[s].set(i, v);
+    written.set(i, v);
     return 1;
   }
 
   public int copy(int s, int from, int t, int to, int n) {
-    if (!isSheet(s) || !isSheet(t)) {
+    Sheet one = sheetAt(s);
+    Sheet other = sheetAt(t);
+    if (one == null || other == null) {
       return finding(BEYOND);
     }
-    if (sheets[s].isMissing() || sheets[t].isMissing()) {
+    if (one.isMissing() || other.isMissing()) {
       return finding(MISSING);
     }
-    if (sheets[s].bits() != sheets[t].bits()) {
+    if (one.bits() != other.bits()) {
       return finding(KIND);
     }
-    if (!sheets[s].holds(from, n) || !sheets[t].holds(to, n)) {
+    if (!one.holds(from, n) || !other.holds(to, n)) {
       return finding(BEYOND);
     }
-    sheets[t].take(to, sheets[s], from, n);
+    other.take(to, one, from, n);
     return n;
   }
 
   public int load(int s) {
-    if (!isSheet(s)) {
+    Sheet loaded = sheetAt(s);
+    if (loaded == null) {
       return finding(BEYOND);
     }
-    if (sheets[s].isMissing()) {
+    if (loaded.isMissing()) {
       return finding(MISSING);
     }
-    for (int i = 0; i < sheets[s].size(); i++) {
-      int v = sheets[s].get(i);
+    for (int i = 0; i < loaded.size(); i++) {
+      int v = loaded.get(i);
       if (v < 0 || v > MOST_WORTH) {
         return i;
       }
       town.setWorth(i, v);
     }
-    return sheets[s].size();
+    return loaded.size();
   }
 
   public int judge(int s) {
-    if (!isSheet(s)) {
+    Sheet judged = sheetAt(s);
+    if (judged == null) {
       return finding(BEYOND);
     }
-    if (sheets[s].isMissing()) {
+    if (judged.isMissing()) {
       return finding(MISSING);
     }
-    if (town.houses().size() + sheets[s].size() > MOST_HOUSES) {
+    if (town.houses().size() + judged.size() > MOST_HOUSES) {
       return finding(SIZE);
     }
     Houses houses = trial.houses();
     houses.becomeAs(town.houses());
-    for (int i = 0; i < sheets[s].size(); i++) {
-      int lot = sheets[s].get(i);
+    for (int i = 0; i < judged.size(); i++) {
+      int lot = judged.get(i);
       if (lot < 0 || lot >= ALL_LOTS || !houses.isFree(lot)) {
         return 1 + i;
       }
@@ -679,8 +685,9 @@ public final class EqualPlain {
     return spot >= 0 && spot < ALL_SPOTS;
   }
 
-  private static boolean isSheet(int s) {
-    return s >= 0 && s < ALL_SHEETS;
+  /** A sheet, MISSING or not; null if there is no such number. */
+  private Sheet sheetAt(int s) {
+    return s >= 0 && s < ALL_SHEETS ? sheets[s] : null;
   }
 
   /** What the kinds of houses have of their own, and what they have from the kind above. */
