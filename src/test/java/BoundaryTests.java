@@ -12,6 +12,8 @@ public final class BoundaryTests {
     TextBounds.run();
     SheetBounds.run();
     ImageBounds.run();
+    TermBounds.run();
+    StayBounds.run();
     Bounds.report();
   }
 }
